@@ -840,7 +840,7 @@ public final class EvenVoyage {
         private static final int NO_ITEM = 0;
         private static final int FIRST_FAULT = -10;
         private static final int[] LEAST_OF_LEG = {1, 0, 0, 0};
-        private static final int[] MOST_OF_LEG = {99, 9, GREATEST, GREATEST};
+        private static final int[] MOST_OF_LEG = {99, 9, 999, 999};
 
         private final int[] letters = new int[MOST_LETTERS];
         private int size = 0;

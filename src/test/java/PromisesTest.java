@@ -575,6 +575,11 @@ public final class PromisesTest {
         due("24: never apart", late.look(), 0);
         late.moves(1, 1, 0, 101);
         due("24: apart at", late.look(), 5);
+        Checks.tell(late, 0, "l1 0 0 99;");
+        Checks.tell(late, 1, "l1 0 0 100;");
+        due("24: apart at 99", late.look(), 99);
+        late.moves(0, 1, 0, 101);
+        due("24: apart at 100 is too late", late.look(), 0);
     }
 
     private static void images() {
