@@ -165,6 +165,8 @@ public final class PromisesTest {
         fault("l1 0 0 9;l1 0 0 9;l1 0 0 9;l1 0 0 9;l1 0 0 9;l1 0 0 9; l1 0 0 9;", 55);
         fault("l1 0 0 0,", 8);
         fault("l-1 0 0 0;", 1);
+        fault(" ".repeat(148) + "l1", 150);
+        fault(" ".repeat(147) + "999", 147);
         fault("" + (char) 255, 0);
         fault("l1 0 0 0;" + (char) 0, 9);
     }
@@ -184,6 +186,7 @@ public final class PromisesTest {
         for (int i : NO_SHIPS) {
             due("5: sails(" + i + ")", y.sails(i), BAD);
         }
+        due("5: one mile", with("l1 3 0 5;").sails(0), 8);
         EvenVoyage z = with("l99 9 0 999;f999 999 999 999;");
         due("5: late", z.sails(0), 1008);
         due("5: burnt much", z.ship(0, 4), 99 * 999);
@@ -353,6 +356,8 @@ public final class PromisesTest {
         due("12: at 1", w.closed(0, 1), 1);
         due("13: upper", w.time(0, 2, 0), 68);
         due("13: lower", w.time(0, 2, 1), 3);
+        due("12: missed by a third of an hour", with("l1 0 0 1;l2 0 0 4;").plan(0, 0), 2);
+        due("12: missed by none", with("l1 0 0 1;l2 0 0 3;").plan(0, 0), 1);
         // Windows are shifted by the stays ahead: 10 and 5, then 20 and 5, are even.
         EvenVoyage v = with("l10 5 10 10;l10 5 25 25;l10 0 0 40;");
         due("12: stays shift windows", v.plan(0, 0), 1);
@@ -412,9 +417,9 @@ public final class PromisesTest {
     }
 
     private static void cost() {
-        // 10 miles at 10, 20, 30, 60 and at 5, 15, 25 by the table 1, 2, 4, 8.
-        int[] miles = {10, 20, 30, 60, 5, 15, 25};
-        int[] want = {10 * 2, 20 * 4, 30 * 8, 60 * 20, 7, 45, 150};
+        // In one hour each, so that miles are speeds, by the table 1, 2, 4, 8.
+        int[] miles = {10, 20, 30, 60, 5, 11, 15, 21, 25};
+        int[] want = {10 * 2, 20 * 4, 30 * 8, 60 * 20, 7, 24, 45, 92, 150};
         for (int n = 0; n < miles.length; n++) {
             EvenVoyage x = with("l" + miles[n] + " 0 0 1;v60;");
             due("16: cost at " + miles[n], x.cost(0, 0), want[n]);
@@ -504,6 +509,7 @@ public final class PromisesTest {
         due("20: on", x.mile(0, 15), 33);
         due("20: at the end", x.mile(0, 17), 40);
         x.sails(0);
+        due("20: one mile in one hour", with("l1 0 0 1;").mile(0, 1), 1);
         due("20: no plan", x.mile(0, 5), NONE);
         due("20: BAD ahead", x.mile(0, 1000), BAD);
     }
