@@ -29,6 +29,17 @@ final class Checks {
         return x.tells(i);
     }
 
+    /** A new object whose ships 0, 1, .. are told by these texts; an empty one tells a ship without legs. */
+    static EvenVoyage told(String... texts) {
+        EvenVoyage x = new EvenVoyage();
+        for (int i = 0; i < texts.length; i++) {
+            if (tell(x, i, texts[i]) < 0) {
+                throw new IllegalArgumentException("the test's own text is faulty: " + texts[i]);
+            }
+        }
+        return x;
+    }
+
     boolean failed() {
         return wrong != 0;
     }
