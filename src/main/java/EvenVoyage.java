@@ -581,8 +581,8 @@ public final class EvenVoyage {
      */
     private static final class Plan {
         private static final int PORTS = Ship.MOST_LEGS + 1;
-        /** No end of a stretch; ends at LOW and at HIGH as closed() answers them; the outermost ends. */
-        private static final int BETWEEN = 0, AT_LOW = 1, AT_HIGH = 2, OUTERMOST = 3;
+        /** No two stretches meet there; they meet at LOW, at HIGH: as closed() answers them. */
+        private static final int BETWEEN = 0, AT_LOW = 1, AT_HIGH = 2;
 
         private int first = 0;
         private int last = 0;
@@ -591,7 +591,7 @@ public final class EvenVoyage {
         private final int[] lows = new int[PORTS];
         private final int[] highs = new int[PORTS];
         private final int[] hours = new int[PORTS];
-        private final int[] ends = new int[PORTS];
+        private final int[] meetings = new int[PORTS];
         private final int[] stretchBegin = new int[Ship.MOST_LEGS];
         private final int[] stretchEnd = new int[Ship.MOST_LEGS];
         private final int[] table = new int[4];
@@ -608,10 +608,8 @@ public final class EvenVoyage {
             }
             layPorts(ship);
             hours[first] = ship.trait(Ship.LEAVES);
-            ends[first] = OUTERMOST;
             if (last > first) {
                 hours[last] = highs[last];
-                ends[last] = OUTERMOST;
             }
             splitStretches();
             measureStretches();
@@ -634,7 +632,7 @@ public final class EvenVoyage {
             if (port <= first || port >= last) {
                 return 0;
             }
-            return ends[port];
+            return meetings[port];
         }
 
         /** The miles of the stretch in which a leg lies. */
@@ -741,7 +739,7 @@ public final class EvenVoyage {
                 waits[port] = wait;
                 lows[port] = ship.ofLeg(port - 1, Ship.OPENS) - wait;
                 highs[port] = ship.ofLeg(port - 1, Ship.CLOSES) - wait;
-                ends[port] = BETWEEN;
+                meetings[port] = BETWEEN;
                 wait += ship.ofLeg(port - 1, Ship.STAY);
             }
         }
@@ -756,17 +754,17 @@ public final class EvenVoyage {
                     begin = end;
                 } else if (missAt(begin, end, port) < 0) {
                     hours[port] = lows[port];
-                    ends[port] = AT_LOW;
+                    meetings[port] = AT_LOW;
                 } else {
                     hours[port] = highs[port];
-                    ends[port] = AT_HIGH;
+                    meetings[port] = AT_HIGH;
                 }
             }
         }
 
         private int nextEnd(int begin) {
             for (int port = begin + 1; port < last; port++) {
-                if (ends[port] != BETWEEN) {
+                if (meetings[port] != BETWEEN) {
                     return port;
                 }
             }

@@ -316,5 +316,11 @@ public final class SightEdgesTest {
         due("24: one is left", x.look(), NONE);
         due("9: undo", x.undo(), 2);
         due("24: two again, alike", x.look(), 0);
+        // Ship 0 is at 1 from 10 on: once it can't be meant, it is alike to none of the others.
+        EvenVoyage y = Checks.told("l1 0 0 10;", "l1 0 0 20;", "l1 0 0 21;");
+        due("24: at 10 two are at 0, and one without a PLAN", y.look(), 10);
+        y.sees(10, 0);
+        due("23: the other two", y.which(), 6);
+        due("24: at 20 alone they are apart", y.look(), 20);
     }
 }
