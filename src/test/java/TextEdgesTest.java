@@ -226,7 +226,11 @@ public final class TextEdgesTest {
         fault("f0 1 3 4;", 7);
         fault("f0 1 3 3;", 7);
         fault("f0 0 500 999;", 9);
-        // Numbers by which nothing may follow stand; what follows can't.
+        // "beyond what it may be by what is told ahead of it": a number by which nothing may follow
+        // stands itself; what follows can't.
+        fault("f0 999 999 999;", 7);
+        fault("f0 999;", 6);
+        fault("f0 999", 6);
         fault("f0 500 999 999;", 7);
         fault("f0 499 998 999;", 11);
         fault("f0 500;", 6);
